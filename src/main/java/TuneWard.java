@@ -534,12 +534,12 @@ public final class TuneWard {
         int whole = 0;
         // Bound in the trial first: a pair that is refused undoes those ahead of it.
         trial.become(now);
-        while (whole < n && found == 0) {
-            long cell = (long) f + 2 * whole;
+        for (int i = 0; i < n && found == 0; i++) {
+            long cell = (long) f + 2 * i;
             if (!sheet.hasCell(cell) || !sheet.hasCell(cell + 1)) {
                 found = INDEX_FAULT;
             } else if (trial.rebind(sheet.cells[(int) cell], sheet.cells[(int) cell + 1]) < 0) {
-                return -20 - whole;
+                return -20 - i;
             } else {
                 whole++;
             }
@@ -1025,16 +1025,15 @@ public final class TuneWard {
             house.score[t * MOST_NOTES] = nextNumber(0, MOST_NOTE);
             house.notes[t] = 1;
             advance();
-            while (faultFound == 0 && token == NUMBER) {
+            for (int i = 1; i <= MOST_NOTES && faultFound == 0 && token == NUMBER; i++) {
                 int note = number(0, MOST_NOTE);
-                int many = house.notes[t];
-                if (many >= MOST_NOTES) {
+                if (i == MOST_NOTES) {
                     fail(TOO_MANY, tokenPlace);
-                    return;
+                } else {
+                    house.score[t * MOST_NOTES + i] = note;
+                    house.notes[t] = i + 1;
+                    advance();
                 }
-                house.score[t * MOST_NOTES + many] = note;
-                house.notes[t]++;
-                advance();
             }
             sign();
         }

@@ -583,6 +583,11 @@ public final class PromisesTest {
         due("the first of all", x.apart(12), 0);
         due("no tunes", new TuneWard().apart(0), STATE);
         due("no tunes, no start", new TuneWard().apart(10), BAD);
+        TuneWard close = told("plain 4 0 1;plain 8 0 1;fugue 6 0 5;"
+                + "player 9 99 1 0;player 9 99 1 1;player 9 99 1 2;bound 2;");
+        due("only by 4 it would not", close.apart(0), 1);
+        close.set(0, 2, 3);
+        due("by 3 it does not", close.apart(0), 0);
         TuneWard one = told("plain 1 9 1;bound 0;");
         due("away all the same", one.apart(0), 1);
         due("0 comes first", one.apart(10), 0);
@@ -641,6 +646,9 @@ public final class PromisesTest {
         due("what 2", x.bribe(1, 5, 2), BAD);
         due("what -1", x.bribe(1, 5, -1), BAD);
         due("no prisoners", new TuneWard().bribe(1, 5, 0), BAD);
+        TuneWard fewer = told("plain 9 0 1;player 9 2 1 0;player 9 2 1 0;player 9 5 1 0;bound 0;");
+        due("the third alone, not the two ahead", fewer.bribe(1, 5, 0), 1);
+        due("the third alone, not the two ahead", fewer.bribe(1, 5, 1), 4);
     }
 
     // Promise 27
