@@ -111,12 +111,24 @@ public final class LanguageTest {
                 Checks.due("sign " + i, whole.charAt(i), ' ');
             }
         }
-        int lines = 0;
-        for (String line : text.split("\n")) {
-            boolean opens = line.matches(" {4,8}(public|private|static|final|void|int|long|boolean)[^=;]*\\) \\{");
-            lines = opens ? 0 : lines + 1;
-            Checks.due("long method at " + line, line.matches(" {4,8}\\}") && lines > 60 && !line.equals("    }") ? 1 : 0, 0);
+        lengthsOfMethods(text.split("\n"));
+    }
+
+    private static void lengthsOfMethods(String[] lines) {
+        int methods = 0;
+        int start = 0;
+        String close = "";
+        for (int i = 0; i < lines.length; i++) {
+            if (lines[i].matches(" {4,8}(public|private|static|final|void|int|long|boolean) ?[^=;]*\\) \\{")) {
+                start = i;
+                close = lines[i].replaceAll("\\S.*", "") + "}";
+            } else if (lines[i].equals(close)) {
+                methods++;
+                Checks.due("long method at " + lines[start], i - start <= 60 ? 1 : 0, 1);
+                close = "";
+            }
         }
+        Checks.due("methods were found", methods > 80 ? 1 : 0, 1);
     }
 
     // Rule 12: calls take no room once the object is made
