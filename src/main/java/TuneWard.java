@@ -12,6 +12,8 @@ public final class TuneWard {
     private static final int MOST_SEEN = 6, IMAGES = 2, SHEETS = 4, LANES = 3, MOST_CELLS = 40, MOST_READ = 20;
     private static final int NULL_FAULT = 1, INDEX_FAULT = 2, CAST_FAULT = 3, SIZE_FAULT = 4;
     private static final int TENTHS = 10;
+    /** More than may GET AWAY, more than any COST. */
+    private static final int ABOVE_ALL = 1000000;
 
     private final House now = new House();
     private final House told = new House();
@@ -265,8 +267,8 @@ public final class TuneWard {
         trial.become(now);
         int codes = power(now.tunes, now.players);
         int bestCode = 0;
-        int fewest = Integer.MAX_VALUE;
-        int cheapest = Integer.MAX_VALUE;
+        int fewest = ABOVE_ALL;
+        int cheapest = ABOVE_ALL;
         for (int code = 0; code < codes; code++) {
             spread(code, now.tunes, trial.at, now.players);
             playing.run(trial, 0);
@@ -296,7 +298,7 @@ public final class TuneWard {
         trial.become(now);
         int codes = power(STARTS_TRIED, now.tunes);
         int bestCode = 0;
-        int fewest = Integer.MAX_VALUE;
+        int fewest = ABOVE_ALL;
         for (int code = 0; code < codes; code++) {
             spread(code, STARTS_TRIED, trial.start, now.tunes);
             playing.run(trial, 0);

@@ -22,6 +22,7 @@ public final class LanguageTest {
     private static final List<String> FORBIDDEN = List.of("throw", "throws", "try", "catch", "synchronized", "assert",
         "import", "protected", "lambda", "Object", "Random", "System.currentTimeMillis", "System.nanoTime", "Exact",
         "hashCode", "toString", "yield", "record", "package", "native", "volatile");
+    private static final Set<String> LIBRARY = Set.of("Integer.bitCount", "Math.max", "System.arraycopy");
 
     public static void main(String[] args) throws IOException {
         theFace();
@@ -111,7 +112,19 @@ public final class LanguageTest {
                 Checks.due("sign " + i, whole.charAt(i), ' ');
             }
         }
+        theLibrary(text);
         lengthsOfMethods(text.split("\n"));
+    }
+
+    // Rule 4: of the library only functions that the rule lists; no constants of its classes
+    private static void theLibrary(String text) {
+        Matcher used = Pattern.compile("\\b(Integer|Long|Math|System|Arrays|String|Character|List)\\.\\w+").matcher(text);
+        int many = 0;
+        while (used.find()) {
+            many++;
+            Checks.due("of the library: " + used.group(), LIBRARY.contains(used.group()) ? 1 : 0, 1);
+        }
+        Checks.due("the library was found", many > 10 ? 1 : 0, 1);
     }
 
     private static void lengthsOfMethods(String[] lines) {
